@@ -46,6 +46,12 @@ public final class ChanceAndFairsTest {
         chanceIs(x, 8, 1, 256);
         chanceIs(x, 0, 1, 1);
         chanceIs(x, 16, 0, 1);
+        Told.text(x, 2, "b05;a00;a01;b00");
+        due.is("another of many SHOTS", x.chance(15, 1, 0), 1);
+        due.is("another of many SHOTS", x.chance(15, 1, 1), 4294967296L);
+        due.is("one that HITS never", x.chance(15, 2, 0), 0);
+        due.is("one ahead of which it is DOWN", x.chance(15, 3, 0), 4294967295L);
+        Told.text(x, 2, "a00");
         x.back();
         chanceIs(x, 8, 1, 128);
 

@@ -121,6 +121,11 @@ public final class CountAndDigestTest {
         due.is("digest() with nothing SEEN", x.digest(), digestByCalls(x));
         x.type(1, 0);
         due.is("digest() with a FAULT", x.digest(), digestByCalls(x));
+        x = Told.of("r0", "0at1", "b00");
+        x.rifle(1, 0);
+        x.event(1, 1, 0);
+        x.event(1, 1, 1);
+        due.is("digest() with two to SPARE", x.digest(), digestByCalls(x));
         x = new TinDucks();
         due.is("digest() of a new one", x.digest(), digestByCalls(x));
     }

@@ -25,6 +25,12 @@ public final class PlansTest {
         due.is("its own COLUMN", x.aim(0, 0), 2);
         due.is("nothing is changed", x.shot(1, 2), 5);
         due.is("nothing is changed", x.sum(0), 9);
+        Told.text(x, 0, "r0;r0");
+        Told.text(x, 1, "0at1;1bt9;1ct5");
+        Told.text(x, 2, "a05;b15;c12");
+        due.is("on its own CHAIN", x.aim(0, 0), 0);
+        due.is("on its own CHAIN", x.aim(1, 0), 1);
+        due.is("how much", x.aim(1, 1), 14);
         Told.text(x, 1, "");
         due.is("no DUCKS: the least", x.aim(1, 0), 0);
         due.is("no DUCKS: 0", x.aim(1, 1), 0);
@@ -88,6 +94,12 @@ public final class PlansTest {
         due.is("nothing is changed", x.count(3), 4);
         x.wipe(2);
         spareIs(x, 0, -1, -1);
+
+        x = Told.of("r0", "0at1", "a00");
+        x.event(1, 1, 0);
+        spareIs(x, 1, 0, -1);
+        x.event(1, 5, 0);
+        spareIs(x, 1, 0, -1);
 
         x = Told.of("r1", "0at1", "b01");
         x.rifle(1, 0);

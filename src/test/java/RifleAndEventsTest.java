@@ -75,6 +75,13 @@ public final class RifleAndEventsTest {
         due.is("the third", x.at(2, 2, 0), 6);
         x.event(0, 0, 3);
         due.is("no such CHAIN", x.at(0, 0, 0), 1);
+        x.event(0, 6, 2);
+        x.event(0, 6, 0);
+        due.is("two CHAINS that JERK in a TICK", x.at(6, 0, 0), x.at(5, 0, 0));
+        due.is("two CHAINS that JERK in a TICK", x.at(6, 2, 0), x.at(5, 2, 0));
+        due.is("not the third", x.at(6, 1, 0), x.at(7, 1, 0) + 1);
+        x.back();
+        x.back();
         x.rifle(1, 0);
         due.is("a SHOT without a DRAUGHT", x.hits(0, 1), 0);
         x.event(1, 0, 9);
@@ -107,6 +114,9 @@ public final class RifleAndEventsTest {
         due.is("both are", x.at(1, 0, 0), 2);
         due.is("back() of none", x.back(), TinDucks.NOT);
         due.is("count(3)", x.count(3), 0);
+        x.event(0, 5, 0);
+        due.is("in place of one undone: not in its TICK", x.at(0, 0, 0), 1);
+        due.is("but in its own", x.at(5, 0, 0), 5);
     }
 
     private static void lay(TinDucks x, int s, int form, int... items) {
@@ -127,6 +137,9 @@ public final class RifleAndEventsTest {
             due.is("the first is not", x.at(0, 0, 0), 0);
         }
         TinDucks x = new TinDucks();
+        lay(x, 0, 2, 2, 23, 11);
+        due.is("read: three items are one", x.read(0), 1);
+        x.back();
         lay(x, 0, 2, 0, 0, 0, 0, 24, 0, 0, 1, 0);
         due.is("read: as long as each may be", x.read(0), 1);
         lay(x, 0, 2, 0, 0, -1, 0, 1, 0);

@@ -116,8 +116,17 @@ public final class SeenTest {
         x = Told.of("r0", "0at1;0bt2;0ct3;0dt4;0et5", "a02;f02");
         due.is("all apart", x.ask(), 1);
         Told.text(x, 1, "0at1;0bt2;0ct3");
+        Told.text(x, 2, "");
+        due.is("all alike: the least", x.ask(), 0);
+        Told.text(x, 2, "d00");
+        Told.text(x, 1, "0ct3");
+        due.is("one apart", x.ask(), 4);
+        Told.text(x, 1, "0at1;0ct3");
+        Told.text(x, 2, "d00;h02");
+        due.is("one apart, then two of either", x.ask(), 8);
+        Told.text(x, 1, "0at1;0bt2;0ct3");
         Told.text(x, 2, "a00;f01");
-        // by PULL 0, 1: none, none in 1, in 6 by 1 the first; by 2, 3, 4: each its own, in 6 one more
+        // down behind 1, by PULL 0 to 4: none, none, 0, 1, 2; behind 6: none, 0, 0 and 1, 1 and 2, 2
         due.is("apart later", x.ask(), 6);
     }
 

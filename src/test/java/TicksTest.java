@@ -11,6 +11,8 @@ public final class TicksTest {
         gum();
         runs();
         easiest();
+        inTheLastTick();
+        retold();
         refusals();
         due.end();
     }
@@ -157,6 +159,39 @@ public final class TicksTest {
         Told.text(x, 2, "a05");
         due.is("none ever", x.easy(), TinDucks.NONE);
         due.is("all SAFE", x.safe(), 15);
+    }
+
+    private static void inTheLastTick() {
+        TinDucks x = Told.of("r0", "0at2;0bh3;0ch4", "x00;w01;w02");
+        x.rifle(1, 0);
+        due.is("DOWN behind 23", x.count(6), 1);
+        due.is("down(23)", x.down(23), 1);
+        due.is("down(22)", x.down(22), 0);
+        due.is("both are DENTED", x.at(23, 1, 1), 1);
+        due.is("both are DENTED", x.at(23, 2, 1), 1);
+        due.is("none is SAFE", x.safe(), 0);
+        Told.text(x, 2, "x00");
+        due.is("EASY", x.easy(), 0);
+        due.is("SAFE", x.safe(), 6);
+    }
+
+    private static void retold() {
+        TinDucks x = Told.of("r0", "0gt1;0ht2", "a00;b01");
+        due.is("out of sight", x.down(5), 0);
+        Told.text(x, 1, "0at1;0bt2");
+        due.is("where those were that are told no more", x.sees(0, 0, 6), TinDucks.NONE);
+        due.is("DOWN in sight", x.down(5), 2);
+        Told.text(x, 0, "r1");
+        Told.text(x, 1, "0et1;0dt2");
+        Told.text(x, 2, "a05;a04");
+        x.rifle(1, 0);
+        due.is("both DOWN", x.down(0), 2);
+        due.is("one is out of sight", x.down(1), 1);
+        due.is("both are", x.down(2), 0);
+        x.event(2, 0, 1);
+        x.event(2, 1, 0);
+        x.event(2, 1, 1);
+        due.is("SET in one TICK", x.down(1), 0);
     }
 
     private static void refusals() {
