@@ -51,6 +51,12 @@ public final class ChanceAndFairsTest {
         due.is("another of many SHOTS", x.chance(15, 1, 1), 4294967296L);
         due.is("one that HITS never", x.chance(15, 2, 0), 0);
         due.is("one ahead of which it is DOWN", x.chance(15, 3, 0), 4294967295L);
+        Told.text(x, 2, "a05;a05;a05;a05;a05;a05;a05;a05;a05;a05;a05;a00");
+        due.is("the last of 12 SHOTS", x.chance(15, 11, 1), 4294967296L);
+        Told.text(x, 1, "0bt1");
+        due.is("the last of 12 SHOTS, by any DRAUGHT", x.chance(15, 11, 0), 4294967295L);
+        due.is("by all of them", x.chance(16, 11, 0), 1);
+        Told.text(x, 1, "0at1");
         Told.text(x, 2, "a00");
         x.back();
         chanceIs(x, 8, 1, 128);

@@ -25,6 +25,11 @@ public final class PlansTest {
         due.is("its own COLUMN", x.aim(0, 0), 2);
         due.is("nothing is changed", x.shot(1, 2), 5);
         due.is("nothing is changed", x.sum(0), 9);
+        Told.text(x, 1, "0et9");
+        x.rifle(0, 0);
+        due.is("no COLUMN but 0 to 5", x.aim(0, 0), 0);
+        due.is("how much", x.aim(0, 1), 0);
+        x.rifle(0, 2);
         Told.text(x, 0, "r0;r0");
         Told.text(x, 1, "0at1;1bt9;1ct5");
         Told.text(x, 2, "a05;b15;c12");
@@ -68,6 +73,9 @@ public final class PlansTest {
         due.is("as far as it goes", x.mend(0), 4);
         due.is("how much", x.mend(1), 2);
         due.is("nothing is changed", x.rifle(0, 2), 2);
+        Told.text(x, 1, "0dt2");
+        due.is("no PULL but 0 to 4", x.mend(0), 0);
+        due.is("how much", x.mend(1), 0);
         Told.text(x, 1, "");
         due.is("no DUCKS: the least", x.mend(0), 0);
         due.is("no DUCKS: 0", x.mend(1), 0);

@@ -117,6 +117,9 @@ public final class RifleAndEventsTest {
         x.event(0, 5, 0);
         due.is("in place of one undone: not in its TICK", x.at(0, 0, 0), 1);
         due.is("but in its own", x.at(5, 0, 0), 5);
+        x.event(0, 7, 0);
+        due.is("in place of both undone: not in their TICKS", x.at(4, 0, 0), 5);
+        due.is("but in its own", x.at(7, 0, 0), 6);
     }
 
     private static void lay(TinDucks x, int s, int form, int... items) {

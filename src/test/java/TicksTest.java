@@ -188,6 +188,15 @@ public final class TicksTest {
         due.is("both DOWN", x.down(0), 2);
         due.is("one is out of sight", x.down(1), 1);
         due.is("both are", x.down(2), 0);
+        Told.text(x, 1, "0dt1;0et2");
+        due.is("as told the other way: one is out of sight", x.down(1), 1);
+        due.is("both are", x.down(2), 0);
+        Told.text(x, 1, "0gt1");
+        Told.text(x, 2, "k05");
+        due.is("DOWN", x.down(10), 1);
+        due.is("out of sight where it was at first", x.down(11), 0);
+        Told.text(x, 1, "0et1;0dt2");
+        Told.text(x, 2, "a05;a04");
         x.event(2, 0, 1);
         x.event(2, 1, 0);
         x.event(2, 1, 1);
