@@ -90,10 +90,11 @@ public final class ChanceAndFairsTest {
 
     /** Standing ducks of tin everywhere but above: a LOT hits where none was down, if it comes in time. */
     private static void fairs() {
-        TinDucks x = Told.of("r0;r0;r0", "0at1;0bt2;0ct3;0dt4;0et5;0ft6;1at7;1bt8;1ct9;1dt1;1et2;1ft3", "a00");
+        String ducks = "0at1;0bt2;0ct3;0dt4;0et5;0ft6;1at7;1bt8;1ct9;1dt1;1et2;1ft3";
         int[] worth = {1, 2, 3, 4, 5, 6, 7, 8, 9, 1, 2, 3};
         int[] seeds = {0, 1, -1, 7, 12345, Integer.MAX_VALUE, Integer.MIN_VALUE, 987654321};
         for (int flight = 0; flight <= 3; flight++) {
+            TinDucks x = Told.of("r0;r0;r0", ducks, "a00");
             x.rifle(1, flight);
             for (int seed : seeds) {
                 for (int n = 0; n <= 12; n++) {
@@ -102,8 +103,8 @@ public final class ChanceAndFairsTest {
                     due.is("fairs(" + seed + ", " + n + ", 1)", x.fairs(seed, n, 1), want[1]);
                 }
             }
+            due.is("nothing is changed", x.count(1), 1);
         }
-        due.is("nothing is changed", x.count(1), 1);
     }
 
     private static int[] standingFair(int start, int n, int flight, int[] worth) {

@@ -122,7 +122,7 @@ public final class LanguageTest {
         long id = Thread.currentThread().getId();
         threads.getThreadAllocatedBytes(id);
         long before = threads.getThreadAllocatedBytes(id);
-        for (int i = 0; i < 100; i++) {
+        for (int i = 0; i < 80; i++) {
             x.rifle(0, i % 5);
             x.type(2, 59);
             x.undo(2);

@@ -2,13 +2,16 @@ import java.util.Random;
 
 /** All promises at once: random runs of calls, each answer held against that of Model. */
 public final class ModelTest {
-    private static final int RUNS = 150, CALLS = 300;
+    private static final int RUNS = 150;
+    /** An object has 512 calls; one step of a run takes 64 of them at most. */
+    private static final int CALLS = 512, CALLS_OF_A_STEP = 64;
     private static final Due due = new Due();
 
     private final Random random;
     private final int number;
     private final TinDucks x = new TinDucks();
     private final Model m = new Model();
+    private int calls;
 
     private ModelTest(int number) {
         this.number = number;
@@ -26,13 +29,20 @@ public final class ModelTest {
         typeAll(0, chains());
         typeAll(1, ducks());
         typeAll(2, shots());
-        for (int i = 0; i < CALLS; i++) {
+        while (calls + CALLS_OF_A_STEP < CALLS) {
             call(random.nextInt(46));
         }
-        is("digest()", x.digest(), m.digest());
+        while (calls < CALLS - 1) {
+            int what = calls % 10;
+            is("count(" + what + ")", x.count(what), m.count(what));
+        }
+        is("digest(), the last call", x.digest(), m.digest());
+        due.is("calls", calls, CALLS);
     }
 
+    /** Of one call each. */
     private void is(String call, long got, long want) {
+        calls++;
         due.is("run " + number + ": " + call, got, want);
     }
 
