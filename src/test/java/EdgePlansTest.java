@@ -1,3 +1,6 @@
+import java.util.List;
+import java.util.function.ToLongFunction;
+
 /** Promises 16 to 24: sums, runs and plans, each sentence that names a boundary case, by itself. */
 public final class EdgePlansTest {
     private static final Due due = new Due();
@@ -15,6 +18,7 @@ public final class EdgePlansTest {
         mendLeast();
         mendEveryPull();
         inPlaceOfItsOwn();
+        eachByItself();
         spareNone();
         spareFewest();
         spareLeastRow();
@@ -116,6 +120,8 @@ public final class EdgePlansTest {
         due.is("of like ones the least, whoever is HIT first", Told.still(ducks, "a00;b01").easy(), 10);
         due.is("the most", Told.still(ducks, "a00;b01;c00").easy(), 11);
         due.is("one that DENTED was HIT", Told.still("0at1;0bh1", "a01").easy(), 1);
+        due.is("HIT in TICK 23", Told.still("0at1;0bh1", "a00;a01;x01").easy(), 1);
+        due.is("HIT in TICK 23 alone", Told.still("0at1;0bh1", "x01").easy(), 1);
         due.is("by gum from below", Told.still("0bt1;1ah1;0ag1", "a00;b10").easy(), 1);
     }
 
@@ -218,6 +224,41 @@ public final class EdgePlansTest {
             x.mend(0);
             x.spare(0);
         }));
+    }
+
+    /** Calls that search, each in a gallery in which they answer differently. */
+    private static final List<ToLongFunction<TinDucks>> SEARCHES = List.of(
+        x -> x.run(0), x -> x.run(1), TinDucks::easy, TinDucks::safe, x -> x.aim(0, 0), x -> x.aim(0, 1), x -> x.aim(1, 0),
+        x -> x.aim(1, 1), x -> x.fire(0, 0), x -> x.fire(0, 1), x -> x.fire(1, 0), x -> x.fire(1, 1), x -> x.mend(0), x -> x.mend(1),
+        x -> x.spare(-1), x -> x.spare(0), x -> x.spare(1), x -> x.might(0), x -> x.might(1), x -> x.kind(0), x -> x.kind(2),
+        TinDucks::ask, x -> x.chance(5, 0, 0), x -> x.chance(5, 1, 1), x -> x.fairs(7, 12, 0), x -> x.fairs(7, 12, 1), x -> x.sum(0),
+        x -> x.hits(0, 1), x -> x.at(23, 1, 1), TinDucks::digest);
+
+    private static TinDucks searched() {
+        TinDucks x = Told.still("0at1;0fh9;0dt7;1cg4;2ct2", "c00;d01;c12");
+        x.event(1, 3, 0);
+        x.event(2, 9, 3);
+        x.seen(5, 3, 1);
+        return x;
+    }
+
+    private static void eachByItself() {
+        due.sentence("plans: by what is told alone, whatever was asked ahead");
+        for (int first = 0; first < SEARCHES.size(); first++) {
+            for (int then = 0; then < SEARCHES.size(); then++) {
+                TinDucks x = searched();
+                SEARCHES.get(first).applyAsLong(x);
+                long alone = SEARCHES.get(then).applyAsLong(searched());
+                due.is("call " + then + " behind call " + first, SEARCHES.get(then).applyAsLong(x), alone);
+            }
+        }
+        TinDucks x = searched();
+        // the first brings 1, the second is put aside by the draught, the third goes through gum: 4 and 2
+        int[] got = {x.aim(0, 0), x.aim(0, 1), x.fire(0, 0), x.fire(0, 1), x.mend(0), x.mend(1)};
+        int[] want = {3, 13, 0, 7, 2, 7};
+        for (int i = 0; i < want.length; i++) {
+            due.is("plan " + i, got[i], want[i]);
+        }
     }
 
     private static void spareIs(String call, TinDucks x, int many, int first, int second) {

@@ -15,6 +15,7 @@ public final class EdgeRifleTest {
         noSuchChain();
         noSuchDuck();
         lastIsUndone();
+        anotherInPlaceOfTheLast();
         noEventToUndo();
         wholeOnes();
         asLongAsEachMayBe();
@@ -248,6 +249,25 @@ public final class EdgeRifleTest {
             due.is("count(3)", x.count(3), left);
             due.is("it is not any more", x.at(2 * left, 0, 0), left + 1);
             due.is("those ahead of it are", x.at(23, 0, 0), (24 - left) % 12);
+        }
+    }
+
+    private static void anotherInPlaceOfTheLast() {
+        due.sentence("The last EVENT is undone: and is not, when another comes");
+        for (int before = 0; before < 8; before++) {
+            TinDucks x = Told.of("r1", "0at1", "");
+            for (int i = 0; i < before; i++) {
+                x.event(0, i, 0);
+            }
+            x.event(0, 20, 0);
+            x.back();
+            x.event(0, 22, 0);
+            due.is(before + " ahead of it: behind 19", x.at(19, 0, 0), (20 - before) % 12);
+            due.is(before + " ahead of it: behind 20", x.at(20, 0, 0), (21 - before) % 12);
+            due.is(before + " ahead of it: behind 22", x.at(22, 0, 0), (22 - before) % 12);
+            x.back();
+            x.event(1, 21, 0);
+            due.is(before + " ahead of it: a DRAUGHT in its place", x.at(22, 0, 0), (23 - before) % 12);
         }
     }
 

@@ -216,6 +216,8 @@ public final class EdgeSeenTest {
         due.is("of those of PULLS alone", x.might(1), 12);
         due.is("apart at once", x.ask(), 0);
         due.is("all alike: the least", Told.still("1at1", "x02").ask(), 0);
+        // behind 0: by 0, 1, 2 none, by 3, 4 the first; behind 5: by 2 the second
+        due.is("of two numbers of them the greatest counts", Told.still("0ct1;0ft1", "a00;a01;f05").ask(), 5);
     }
 
     private static void askOfNone() {

@@ -230,11 +230,11 @@ public final class EdgeSheetsTest {
         due.is("is no FINDING", x.count(8), 0);
     }
 
-    /** A row of 1, 2 and so on. */
+    /** A row of 31, 32 and so on. */
     private static void rowOf(TinDucks x, int s, int form, int n) {
         x.sheet(s, form, n);
         for (int i = 0; i < n; i++) {
-            x.lay(s, form, i, i + 1);
+            x.lay(s, form, i, i + 31);
         }
     }
 
@@ -248,7 +248,7 @@ public final class EdgeSheetsTest {
                     due.is("copy(3, " + i + ", 3, " + j + ", 3)", x.copy(3, i, 3, j, 3), 1);
                     for (int at = 0; at < 8; at++) {
                         boolean came = at >= j && at < j + 3;
-                        due.is("item " + at, x.get(3, form, at), came ? at - j + i + 1 : at + 1);
+                        due.is("item " + at, x.get(3, form, at), came ? at - j + i + 31 : at + 31);
                     }
                 }
             }
@@ -257,9 +257,9 @@ public final class EdgeSheetsTest {
         rowOf(x, 0, 1, 60);
         due.is("all of 60, to itself", x.copy(0, 0, 0, 0, 60), 1);
         due.is("59 of 60, to the right", x.copy(0, 0, 0, 1, 59), 1);
-        due.is("the first", x.get(0, 1, 0), 1);
-        due.is("the second", x.get(0, 1, 1), 1);
-        due.is("the last", x.get(0, 1, 59), 59);
+        due.is("the first", x.get(0, 1, 0), 31);
+        due.is("the second", x.get(0, 1, 1), 31);
+        due.is("the last", x.get(0, 1, 59), 89);
     }
 
     private static void copyOfNone() {
@@ -270,7 +270,7 @@ public final class EdgeSheetsTest {
         due.is("of a row to one of no items", x.copy(0, 0, 1, 0, 0), 1);
         due.is("from the end to the end", x.copy(0, 3, 1, 0, 0), 1);
         due.is("of no items to a row", x.copy(1, 0, 0, 3, 0), 1);
-        due.is("nothing came", x.get(0, 1, 0), 1);
+        due.is("nothing came", x.get(0, 1, 0), 31);
         due.is("from behind the end", x.copy(0, 4, 1, 0, 0), INDEX);
         due.is("to behind the end", x.copy(0, 0, 1, 1, 0), INDEX);
         due.is("from below 0", x.copy(0, -1, 1, 0, 0), INDEX);
@@ -336,7 +336,7 @@ public final class EdgeSheetsTest {
                 due.is("write to " + n + " items", x.write(1, 3), Math.min(n, 24));
                 for (int i = 0; i < n; i++) {
                     int is = i == 0 ? 1 : i < 3 || i == 23 ? 2 : 0;
-                    due.is("item " + i + " of " + n, x.get(3, form, i), i < 24 ? is : i + 1);
+                    due.is("item " + i + " of " + n, x.get(3, form, i), i < 24 ? is : i + 31);
                 }
                 due.is("the row is as long as it was", x.lose(3), n);
             }
@@ -419,9 +419,11 @@ public final class EdgeSheetsTest {
         for (int what = 0; what <= 8; what++) {
             due.is("new: count(" + what + ")", x.count(what), 0);
         }
-        x = Told.still("0at5;0bh7", "a00;x01;a05");
-        due.is("SCORE", x.count(4), 5);
-        due.is("HITS", x.count(5), 2);
-        due.is("DOWN behind TICK 23, not DENTED", x.count(6), 1);
+        x = Told.still("0at5;0bh7;0ct2", "a00;x01;a05;x02");
+        due.is("SCORE", x.count(4), 7);
+        due.is("HITS", x.count(5), 3);
+        due.is("DOWN behind TICK 23, not DENTED", x.count(6), 2);
+        x.event(2, 23, 0);
+        due.is("SET in TICK 23", x.count(6), 1);
     }
 }

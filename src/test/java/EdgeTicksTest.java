@@ -8,6 +8,8 @@ public final class EdgeTicksTest {
         standAtFirst();
         goRound();
         outOfSightStands();
+        outOfSightFromAnywhere();
+        outOfSightOneByOne();
         backInSightStillStands();
         setAheadOfShots();
         asTold();
@@ -113,6 +115,55 @@ public final class EdgeTicksTest {
         x.rifle(1, 0);
         due.is("no DUCK of another CHAIN", x.at(1, 1, 1), 2);
         due.is("but that one", x.at(1, 0, 1), 0);
+    }
+
+    private static void outOfSightFromAnywhere() {
+        due.sentence("a DUCK that is not in sight then stands: wherever it was at first, whichever way it goes");
+        for (int way = -3; way <= 3; way++) {
+            for (int place = 0; place <= 11; place++) {
+                for (int tick = 0; tick <= 23; tick++) {
+                    int column = Math.floorMod(place + (tick + 1) * way, 12);
+                    if (column <= 5) {
+                        String chain = (way < 0 ? "l" : "r") + Math.abs(way);
+                        downWhileInSight(chain, place, tick, column, way);
+                    }
+                }
+            }
+        }
+    }
+
+    private static void downWhileInSight(String chain, int place, int hit, int column, int way) {
+        TinDucks x = Told.of(chain, "0" + (char) ('a' + place) + "t1", (char) ('a' + hit) + "0" + column);
+        x.rifle(1, 0);
+        int is = 0;
+        for (int tick = 0; tick <= 23; tick++) {
+            boolean inSight = Math.floorMod(place + (tick + 1) * way, 12) <= 5;
+            is = tick == hit ? 2 : inSight ? is : 0;
+            due.is(chain + " from " + place + ", HIT in " + hit + ", behind " + tick, x.at(tick, 0, 1), is);
+        }
+    }
+
+    private static void outOfSightOneByOne() {
+        due.sentence("a DUCK that is not in sight then stands: each of a CHAIN");
+        String[] ducks = {"0at1;0bt1;0ct1;0dt1;0et1", "0et1;0dt1;0ct1;0bt1;0at1"};
+        for (String told : ducks) {
+            TinDucks x = Told.of("r1", told, "a01;a02;a03;a04;a05");
+            x.rifle(1, 0);
+            for (int tick = 0; tick <= 5; tick++) {
+                due.is("those in sight are DOWN behind " + tick, x.down(tick), 5 - tick);
+            }
+            Told.text(x, 0, "l1");
+            Told.text(x, 1, told.replace('e', 'f'));
+            Told.text(x, 2, "a00;a01;a02;a04");
+            due.is("told anew, leftward", x.down(0), 4);
+            due.is("the first is out of sight", x.down(1), 3);
+            Told.text(x, 0, "r0");
+            Told.text(x, 1, "0gt1;0at1");
+            Told.text(x, 2, "a00");
+            due.is("told anew, still", x.down(23), 1);
+            Told.text(x, 1, "0at1;0gt1");
+            due.is("told the other way round", x.down(23), 1);
+        }
     }
 
     private static void backInSightStillStands() {
@@ -257,6 +308,12 @@ public final class EdgeTicksTest {
         due.is("but it HITS", x.hits(0, 1), 0);
         due.is("the other brings", x.hits(1, 2), 7);
         due.is("a DENTED one is not DOWN", x.down(22), 0);
+        x = Told.still("0ah7;0bh8", "a00;b01;c00;d01");
+        due.is("one is DENTED", x.at(1, 0, 1), 1);
+        due.is("another too", x.at(1, 1, 1), 1);
+        due.is("one is DOWN", x.at(2, 0, 1), 2);
+        due.is("the other is DENTED still", x.at(2, 1, 1), 1);
+        due.is("both are DOWN", x.down(3), 2);
         x = Told.still("0ag1;1ah7", "a00;b10");
         due.is("from gum: DENTED", x.at(0, 1, 1), 1);
         due.is("then DOWN", x.at(1, 1, 1), 2);
