@@ -1,4 +1,5 @@
 import java.util.List;
+import java.util.function.Supplier;
 import java.util.function.ToLongFunction;
 
 /** Promises 16 to 24: sums, runs and plans, each sentence that names a boundary case, by itself. */
@@ -19,6 +20,8 @@ public final class EdgePlansTest {
         mendEveryPull();
         inPlaceOfItsOwn();
         eachByItself();
+        twelfthOfLead();
+        twelfthOfGum();
         spareNone();
         spareFewest();
         spareLeastRow();
@@ -242,16 +245,30 @@ public final class EdgePlansTest {
         return x;
     }
 
-    private static void eachByItself() {
-        due.sentence("plans: by what is told alone, whatever was asked ahead");
+    /** Whatever is changed, lead is dented at most, and nothing is brought. */
+    private static TinDucks dented() {
+        return Told.still("1at1;0bh9;2ch9", "a01;a22");
+    }
+
+    private static void eachBehindEach(Supplier<TinDucks> made) {
         for (int first = 0; first < SEARCHES.size(); first++) {
             for (int then = 0; then < SEARCHES.size(); then++) {
-                TinDucks x = searched();
+                TinDucks x = made.get();
                 SEARCHES.get(first).applyAsLong(x);
-                long alone = SEARCHES.get(then).applyAsLong(searched());
+                long alone = SEARCHES.get(then).applyAsLong(made.get());
                 due.is("call " + then + " behind call " + first, SEARCHES.get(then).applyAsLong(x), alone);
             }
         }
+    }
+
+    private static void eachByItself() {
+        due.sentence("plans: by what is told alone, whatever was asked ahead");
+        eachBehindEach(EdgePlansTest::searched);
+        eachBehindEach(EdgePlansTest::dented);
+        due.is("none brings any: EASY is not 0", dented().easy(), 1);
+        due.is("none brings any: AIM", dented().aim(0, 1), 0);
+        due.is("none brings any: FIRE", dented().fire(1, 1), 0);
+        due.is("none brings any: MEND", dented().mend(1), 0);
         TinDucks x = searched();
         // the first brings 1, the second is put aside by the draught, the third goes through gum: 4 and 2
         int[] got = {x.aim(0, 0), x.aim(0, 1), x.fire(0, 0), x.fire(0, 1), x.mend(0), x.mend(1)};
@@ -259,6 +276,51 @@ public final class EdgePlansTest {
         for (int i = 0; i < want.length; i++) {
             due.is("plan " + i, got[i], want[i]);
         }
+    }
+
+    /** Eleven of tin on CHAIN 1, and a twelfth. */
+    private static TinDucks twelve(String twelfth, String shots) {
+        return Told.still("1at1;1bt1;1ct1;1dt1;1et1;1ft1;1gt1;1ht1;1it1;1jt1;1kt1;" + twelfth, shots);
+    }
+
+    private static void twelfthOfLead() {
+        due.sentence("DUCKS, 12 at most: the twelfth, of lead, wherever something is in place of what is told");
+        due.is("AIM brings", twelve("0ah9", "a00").aim(0, 1), 0);
+        due.is("FIRE brings", twelve("0ah9", "a00").fire(0, 1), 0);
+        due.is("MEND brings", twelve("0ah9", "a00").mend(1), 0);
+        due.is("SPARE: both HIT", twelve("0ah9", "a00;b00").spare(TinDucks.NONE), 0);
+        due.is("CHANCE of the second", twelve("0ah9", "a00;b00").chance(5, 1, 0), 1);
+        due.is("ASK: it is never DOWN", twelve("0ah9", "f00").ask(), 0);
+        TinDucks x = twelve("0ah9", "a00");
+        x.event(0, 0, 0);
+        x.seen(23, 11, 0);
+        due.is("NEVER", x.might(0), 1);
+        due.is("PULLS", x.might(1), 31);
+        due.is("KIND of the first", x.kind(0), 7);
+        due.is("KIND of the twelfth", x.kind(11), 2);
+        int dents = 0;
+        for (int seed = 0; seed < 200; seed++) {
+            int score = x.fairs(seed, 1, 0);
+            dents += score == 0 ? x.fairs(seed, 1, 1) : 0;
+            due.holds("FAIRS by " + seed + ": what dents brings nothing", score != 9);
+        }
+        due.holds("FAIRS: some dent", dents > 0);
+    }
+
+    private static void twelfthOfGum() {
+        due.sentence("DUCKS, 12 at most: the twelfth, of gum, wherever something is in place of what is told");
+        due.is("AIM brings", twelve("0ag9", "a05").aim(0, 1), 10);
+        due.is("FIRE brings", twelve("0ag9", "a00").fire(0, 1), 10);
+        due.is("MEND brings", twelve("0ag9", "a00").mend(1), 10);
+        due.is("SPARE: nothing is left above", twelve("0ag9", "a00;b10").spare(TinDucks.NONE), TinDucks.NONE);
+        due.is("CHANCE of the second", twelve("0ag9", "a00;b10").chance(5, 1, 0), 0);
+        TinDucks x = twelve("0ag9", "a00");
+        x.event(0, 0, 0);
+        x.seen(23, 0, 1);
+        due.is("NEVER", x.might(0), 1);
+        due.is("PULLS", x.might(1), 4);
+        due.is("KIND of the first", x.kind(0), 5);
+        due.is("KIND of the twelfth", x.kind(11), 4);
     }
 
     private static void spareIs(String call, TinDucks x, int many, int first, int second) {

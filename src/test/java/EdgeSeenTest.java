@@ -14,6 +14,7 @@ public final class EdgeSeenTest {
         pulls();
         kinds();
         ask();
+        askOfAnyTwoShots();
         askOfNone();
         changeNothing();
         noSuchThings();
@@ -218,6 +219,54 @@ public final class EdgeSeenTest {
         due.is("all alike: the least", Told.still("1at1", "x02").ask(), 0);
         // behind 0: by 0, 1, 2 none, by 3, 4 the first; behind 5: by 2 the second
         due.is("of two numbers of them the greatest counts", Told.still("0ct1;0ft1", "a00;a01;f05").ask(), 5);
+    }
+
+    /** Which of ROUND_OF_TIN two SHOTS by a PULL have put DOWN, the second from some TICK on. */
+    private static int downBy(int pull, int first, int second, boolean both) {
+        int bits = 0;
+        int[] columns = {first + pull - 2, second + pull - 2};
+        for (int i = 0; i < (both ? 2 : 1); i++) {
+            bits |= columns[i] >= 0 && columns[i] <= 5 ? 1 << columns[i] : 0;
+        }
+        return bits;
+    }
+
+    private static int mostAlike(int[] rows) {
+        int most = 0;
+        for (int row : rows) {
+            int like = 0;
+            for (int other : rows) {
+                like += row == other ? 1 : 0;
+            }
+            most = Math.max(most, like);
+        }
+        return most;
+    }
+
+    private static void askOfAnyTwoShots() {
+        due.sentence("the greatest number of those of PULLS by which the like DUCKS are DOWN is least, of like ones the least");
+        for (int first = 0; first <= 5; first++) {
+            for (int second = 0; second <= 5; second++) {
+                int[] early = new int[5];
+                int[] late = new int[5];
+                for (int pull = 0; pull <= 4; pull++) {
+                    early[pull] = downBy(pull, first, second, false);
+                    late[pull] = downBy(pull, first, second, true);
+                }
+                TinDucks x = Told.still(Told.ROUND_OF_TIN, "c0" + first + ";t0" + second);
+                // ahead of both SHOTS all five are alike
+                int soFar = Math.min(5, mostAlike(early));
+                int want = mostAlike(late) < soFar ? 19 : mostAlike(early) < 5 ? 2 : 0;
+                due.is("COLUMNS " + first + " in TICK 2, " + second + " in TICK 19", x.ask(), want);
+            }
+        }
+        due.is("five alike, then four", Told.still("0at1", "f00").ask(), 5);
+        due.is("four alike, then five", Told.still("0at1", "a00").ask(), 0);
+        due.is("the first two alike, then none", Told.still(Told.ROUND_OF_TIN, "a00;f02").ask(), 5);
+        due.is("the last two alike, then none", Told.still(Told.ROUND_OF_TIN, "a05;f02").ask(), 5);
+        TinDucks x = Told.still("0ct1", "c02;f01");
+        x.event(2, 4, 0);
+        due.is("one alone is DOWN behind 2, another behind 5: the least", x.ask(), 2);
     }
 
     private static void askOfNone() {

@@ -206,6 +206,15 @@ public final class EdgeTicksTest {
         x = Told.of("r1", "0at1", "");
         x.event(2, 10, 0);
         due.is("SET out of sight", x.at(10, 0, 1), 0);
+        String[] kinds = {"0et1", "0eh1", "0eg1"};
+        for (String duck : kinds) {
+            x = Told.of("r1", duck, "a05");
+            x.rifle(1, 0);
+            x.event(2, 1, 0);
+            due.is(duck + ": HIT in the last COLUMN", x.at(0, 0, 1), duck.charAt(2) == 'h' ? 1 : 2);
+            due.is(duck + ": SET in the TICK in which it goes out of sight", x.at(1, 0, 1), 0);
+            due.is(duck + ": and behind that", x.at(2, 0, 1), 0);
+        }
     }
 
     private static void asTold() {
