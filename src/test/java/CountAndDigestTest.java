@@ -1,3 +1,6 @@
+import java.util.function.Consumer;
+import java.util.function.Supplier;
+
 /** Promises 38 and 39: count, digest. */
 public final class CountAndDigestTest {
     private static final Due due = new Due();
@@ -106,27 +109,37 @@ public final class CountAndDigestTest {
         add(x.chance(5, shot, 1));
     }
 
-    private static void digests() {
+    /** One object is asked for its digest, another made alike for all that is in it, as an object has 512 calls. */
+    private static void digestIs(String what, Supplier<TinDucks> made) {
+        due.is("digest() " + what, made.get().digest(), digestByCalls(made.get()));
+    }
+
+    private static TinDucks galleryAnd(Consumer<TinDucks> more) {
         TinDucks x = gallery();
-        due.is("digest()", x.digest(), digestByCalls(gallery()));
-        due.is("digest() again", x.digest(), digestByCalls(x));
+        x.digest();
+        more.accept(x);
+        return x;
+    }
+
+    private static void digests() {
+        digestIs("of a gallery", CountAndDigestTest::gallery);
+        digestIs("again", () -> galleryAnd(TinDucks::digest));
+        digestIs("by another PULL", () -> galleryAnd(x -> x.rifle(0, 3)));
+        digestIs("with nothing SEEN", () -> galleryAnd(TinDucks::forget));
+        digestIs("with a FAULT", () -> galleryAnd(x -> x.type(1, 0)));
+        digestIs("of a new one", TinDucks::new);
+        digestIs("with two to SPARE", () -> {
+            TinDucks x = Told.of("r0", "0at1", "b00");
+            x.rifle(1, 0);
+            x.event(1, 1, 0);
+            x.event(1, 1, 1);
+            return x;
+        });
+        TinDucks x = gallery();
         long before = x.digest();
         x.lose(0);
         due.is("a FINDING is not in it", x.digest(), before);
         x.sheet(0, 0, 5);
         due.is("nor is a SHEET", x.digest(), before);
-        x.rifle(0, 3);
-        due.is("digest() by another PULL", x.digest(), digestByCalls(x));
-        x.forget();
-        due.is("digest() with nothing SEEN", x.digest(), digestByCalls(x));
-        x.type(1, 0);
-        due.is("digest() with a FAULT", x.digest(), digestByCalls(x));
-        x = Told.of("r0", "0at1", "b00");
-        x.rifle(1, 0);
-        x.event(1, 1, 0);
-        x.event(1, 1, 1);
-        due.is("digest() with two to SPARE", x.digest(), digestByCalls(x));
-        x = new TinDucks();
-        due.is("digest() of a new one", x.digest(), digestByCalls(x));
     }
 }
